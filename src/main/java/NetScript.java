@@ -1038,7 +1038,6 @@ public final class NetScript {
             twineUsed += twine;
         }
 
-        /** The row may still hold what an undone editor left. */
         private void addEditor(int twine) {
             editorNumbered(editorCount).twine = twine;
             editorNumbered(editorCount).mended = 0;

@@ -12,6 +12,7 @@ public final class LinesAndAccountsTest {
         theLineStaysWhereNoneIsWritten();
         meansAndShares();
         accounts();
+        accountsOfNotes();
         accountsOfWhatIsThere();
         balance();
         Check.end();
@@ -183,6 +184,21 @@ public final class LinesAndAccountsTest {
         for (int what = 0; what < due.length; what++) {
             Check.due("account " + what, x.account(what), due[what]);
         }
+    }
+
+    private static void accountsOfNotes() {
+        NetScript x = new NetScript();
+        x.knot(0, 0, 1);
+        x.note(0, 0);
+        Check.due("as noted", x.account(6), 1);
+        x.knot(1, 0, 1);
+        x.note(1, 0);
+        Check.due("as noted", x.account(6), 2);
+        x.knot(1, 0, 2);
+        Check.due("as noted", x.account(6), 1);
+        x.knot(0, 1, 2);
+        Check.due("as noted", x.account(6), 0);
+        Check.due("notes", x.account(5), 2);
     }
 
     private static void accountsOfWhatIsThere() {
