@@ -195,7 +195,17 @@ final class Model {
         Chapter asked = now.notes.get(note);
         return now.torn.get(asked.net).stream()
                 .filter(b -> asked.knots.containsKey(b.lesser) && asked.knots.containsKey(b.greater))
-                .count() <= 7;
+                .count() <= 9;
+    }
+
+    /** One of the torn strings of a net, or null. */
+    Bond tornString(int net, int pick) {
+        if (!isBetween(net, 0, 2) || now.torn.get(net).isEmpty()) {
+            return null;
+        }
+        List<Bond> torn = new ArrayList<>(now.torn.get(net));
+        torn.sort(Comparator.comparing(Bond::lesser).thenComparing(Bond::greater));
+        return torn.get(pick % torn.size());
     }
 
     // ---- refusals

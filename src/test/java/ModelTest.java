@@ -29,6 +29,7 @@ public final class ModelTest {
     public static void main(String[] args) {
         for (int run = 0; run < RUNS; run++) {
             new ModelTest(run).make();
+            new ModelTest(RUNS + run).makeTorn();
         }
         Check.end();
     }
@@ -64,14 +65,56 @@ public final class ModelTest {
 
     private void make() {
         while (calls < MOST_CALLS) {
-            int group = chance.below(10);
-            if (group < 5) {
+            int group = chance.below(100);
+            if (group < 55) {
                 change();
-            } else if (group < 9) {
+            } else if (group < 98) {
                 ask();
             } else {
                 text();
             }
+        }
+    }
+
+    /** A full corner of a net is noted and then torn and mended. */
+    private void makeTorn() {
+        int net = run % 3;
+        for (int place = corner; place < corner + 6 * height; place++) {
+            int at = place;
+            if ((place - corner) % 6 < width && chance.below(6) != 0) {
+                both("knot " + at, () -> x.knot(net, at, 2), () -> model.knot(net, at, 2));
+            }
+        }
+        for (int i = 0; i < 4; i++) {
+            int at = innerPlace();
+            both("note " + at, () -> x.note(net, at), () -> model.note(net, at));
+            both("editor", () -> x.editor(99), () -> model.editor(99));
+        }
+        while (calls < MOST_CALLS) {
+            switch (chance.below(6)) {
+                case 0 -> mend(net, innerPlace(), innerPlace());
+                case 1 -> ask();
+                case 2 -> back();
+                case 3 -> tearInner(net);
+                case 4 -> tearInner(net);
+                default -> least(note());
+            }
+        }
+    }
+
+    private void tearInner(int net) {
+        int one = innerPlace();
+        int other = besides(one);
+        both("tear " + net + " " + one + " " + other, () -> x.tear(net, one, other), () -> model.tear(net, one, other));
+    }
+
+    /** The model takes long for many torn strings; then the two ways are at least alike. */
+    private void least(int note) {
+        if (model.isEasy(note)) {
+            both("least " + note, () -> x.least(note), () -> model.least(note));
+            both("leastAgain " + note, () -> x.leastAgain(note), () -> model.least(note));
+        } else {
+            both("least " + note, () -> x.least(note), () -> x.leastAgain(note));
         }
     }
 
@@ -97,46 +140,68 @@ public final class ModelTest {
         return place + steps[chance.below(steps.length)];
     }
 
+    private int note() {
+        return or(chance.below(model.account(5) + 1));
+    }
+
     private void change() {
         int net = net();
         int one = place();
         int other = besides(one);
         int number = or(chance.below(5));
-        int few = or(chance.below(6));
+        int few = note();
         switch (chance.below(run % 2 == 0 ? 20 : 24)) {
             case 0, 1, 2, 3, 4, 5 -> {
-                int kind = or(run % 5 == 0 ? 1 : chance.below(4));
+                int kind = or(run % 5 == 0 ? 1 : chance.below(run % 7 == 0 ? 4 : 8) % 7 % 4);
                 both("knot " + net + " " + one + " " + kind, () -> x.knot(net, one, kind), () -> model.knot(net, one, kind));
             }
             case 6, 7, 8, 20, 21, 22, 23 ->
                 both("tear " + net + " " + one + " " + other, () -> x.tear(net, one, other), () -> model.tear(net, one, other));
-            case 9, 10, 11 ->
-                both("mend " + net + " " + one + " " + other + " " + number,
-                        () -> x.mend(net, one, other, number), () -> model.mend(net, one, other, number));
+            case 9, 10, 11 -> mend(net, one, other);
             case 12 -> {
                 int twine = or(chance.below(run % 4 == 0 ? 5 : 100));
                 both("editor " + twine, () -> x.editor(twine), () -> model.editor(twine));
             }
             case 13 -> both("tide " + number, () -> x.tide(number), () -> model.tide(number));
             case 14 -> both("sink " + net + " " + number, () -> x.sink(net, number), () -> model.sink(net, number));
-            case 15, 16 -> both("note " + net + " " + one, () -> x.note(net, one), () -> model.note(net, one));
-            case 17 -> both("drop " + few, () -> x.drop(few), () -> model.drop(few));
-            case 18 -> both("undo", x::undo, model::undo);
-            default -> {
-                switch (chance.below(4)) {
-                    case 0, 1 -> both("undo", x::undo, model::undo);
-                    case 2 -> both("save", x::save, model::save);
-                    default -> both("restore", x::restore, model::restore);
+            case 16, 17 -> both("note " + net + " " + one, () -> x.note(net, one), () -> model.note(net, one));
+            case 15 -> {
+                if (chance.below(3) == 0) {
+                    both("drop " + few, () -> x.drop(few), () -> model.drop(few));
                 }
             }
+            default -> back();
         }
+    }
+
+    private void back() {
+        switch (chance.below(8)) {
+            case 0 -> both("save", x::save, model::save);
+            case 1 -> both("restore", x::restore, model::restore);
+            case 2 -> {
+                for (int more = chance.below(9); more >= 0; more--) {
+                    both("undo", x::undo, model::undo);
+                }
+            }
+            default -> both("undo", x::undo, model::undo);
+        }
+    }
+
+    /** Most often a string that is torn. */
+    private void mend(int net, int one, int other) {
+        int editor = or(chance.below(model.account(3) + 1));
+        Model.Bond torn = chance.below(4) == 0 ? null : model.tornString(net, chance.below(38));
+        int from = torn == null ? one : torn.lesser();
+        int to = torn == null ? other : torn.greater();
+        both("mend " + net + " " + from + " " + to + " " + editor,
+                () -> x.mend(net, from, to, editor), () -> model.mend(net, from, to, editor));
     }
 
     private void ask() {
         int net = net();
         int one = place();
         int other = besides(one);
-        int few = or(chance.below(6));
+        int few = note();
         boolean is = chance.below(2) == 0;
         boolean isToo = chance.below(2) == 0;
         switch (chance.below(22)) {
@@ -157,22 +222,11 @@ public final class ModelTest {
                 int what = or(chance.below(4));
                 both("noteOf " + few + " " + what, () -> x.noteOf(few, what), () -> model.noteOf(few, what));
             }
-            case 9, 10 -> {
-                if (model.isEasy(few)) {
-                    both("least " + few, () -> x.least(few), () -> model.least(few));
-                } else {
-                    both("least " + few, () -> x.least(few), () -> x.leastAgain(few));
-                }
-            }
-            case 11 -> {
-                if (model.isEasy(few)) {
-                    both("leastAgain " + few, () -> x.leastAgain(few), () -> model.least(few));
-                }
-            }
+            case 9, 10, 11 -> least(few);
             case 12 -> both("bestMend " + net + " " + is, () -> x.bestMend(net, is), () -> model.bestMend(net, is));
             case 13 -> both("ranked " + net + " " + few, () -> x.ranked(net, few), () -> model.ranked(net, few));
             case 14 -> {
-                int editor = or(chance.below(4));
+                int editor = or(chance.below(model.account(3) + 1));
                 int what = or(chance.below(2));
                 both("editorOf " + editor + " " + what, () -> x.editorOf(editor, what), () -> model.editorOf(editor, what));
             }
@@ -191,7 +245,10 @@ public final class ModelTest {
 
     private void line(int net, int place, int few) {
         switch (chance.below(3)) {
-            case 0 -> both("line " + net + " " + few, () -> x.line(net, few), () -> model.line(net, few));
+            case 0 -> {
+                int number = or(chance.below(4));
+                both("line " + net + " " + number, () -> x.line(net, number), () -> model.line(net, number));
+            }
             case 1 -> both("chapterLine " + net + " " + place, () -> x.chapterLine(net, place), () -> model.chapterLine(net, place));
             default -> both("noteLine " + few, () -> x.noteLine(few), () -> model.noteLine(few));
         }
