@@ -51,7 +51,7 @@ public final class NetScript {
     private static final int ORDER_SINK = 5;
     private static final int ORDER_NOTE = 6;
     private static final int ORDER_DROP = 7;
-    private static final int ORDER_WORDS = 8;
+    private static final int ORDER_WORDS = ORDER_DROP + 1;
     /** The shortest orders, as "tide 4;", fit eight times, and a ninth can at least begin. */
     private static final int MOST_ORDERS = 9;
     private static final int MOST_NUMBERS = 4;
