@@ -1,4 +1,5 @@
 import java.util.NoSuchElementException;
+import java.util.function.Supplier;
 
 /** Compares answers with those that are due, and counts the wrong ones. */
 final class Check {
@@ -16,6 +17,15 @@ final class Check {
     private static int wrong = 0;
 
     private Check() {
+    }
+
+    /** What a call answers, or the exception's name behind "throws.". */
+    static String answer(Supplier<Object> call) {
+        try {
+            return call.get().toString();
+        } catch (RuntimeException e) {
+            return "throws." + e.getClass().getName();
+        }
     }
 
     static void due(String what, Object got, Object want) {

@@ -48,18 +48,10 @@ public final class ModelTest {
         }
     }
 
-    private static String answer(Supplier<Object> call) {
-        try {
-            return call.get().toString();
-        } catch (RuntimeException e) {
-            return "throws." + e.getClass().getName();
-        }
-    }
-
     private void both(String what, Supplier<Object> ofClass, Supplier<Object> ofModel) {
         if (calls < MOST_CALLS) {
             calls++;
-            Check.due("run " + run + ", call " + calls + ", " + what, answer(ofClass), answer(ofModel));
+            Check.due("run " + run + ", call " + calls + ", " + what, Check.answer(ofClass), Check.answer(ofModel));
         }
     }
 
