@@ -1262,6 +1262,12 @@ public final class NetScript {
             return order >= 0 && order < MOST_ORDERS ? words[order] : NONE;
         }
 
+        private void putWord(int order, int word) {
+            if (order >= 0 && order < MOST_ORDERS) {
+                words[order] = word;
+            }
+        }
+
         private int numberAt(int order, int index) {
             if (order < 0 || order >= MOST_ORDERS || index < 0 || index >= MOST_NUMBERS) {
                 return NONE;
@@ -1302,7 +1308,7 @@ public final class NetScript {
             for (int word = 0; word < ORDER_WORDS; word++) {
                 position = start;
                 if (readForm(formOf(word), order)) {
-                    words[order] = word;
+                    putWord(order, word);
                     return true;
                 }
                 furthest = Math.max(furthest, position);

@@ -311,10 +311,32 @@ public final class BoundaryQuestionsTest {
         Check.due("torn strings between its knots", y.chapterOf(0, 23, 3), 36);
         y.knot(0, 8, 0);
         Check.due("strings to a knot untied", y.chapterOf(0, 0, 3), 32);
+        ofItsOwnNet();
         NetScript z = new NetScript();
         Pasts.tie(z, 0, 1, 0, 1, 3, 4, 5);
         Check.due("another chapter's strings", z.chapterOf(0, 1, 3), 1);
         Check.due("another chapter's strings", z.chapterOf(0, 3, 3), 2);
+    }
+
+    /** Each net has draughts and torn strings of its own. */
+    private static void ofItsOwnNet() {
+        NetScript x = new NetScript();
+        for (int net = 0; net < 3; net++) {
+            Pasts.tie(x, net, 1, 0, 1, 2, 8, 14, 20);
+        }
+        x.tear(1, 9, 8);
+        x.knot(1, 7, 2);
+        x.tear(1, 1, 2);
+        x.sink(1, 1);
+        x.sink(2, 3);
+        int[][] due = {{0, 6, 6, 5}, {0, 7, 6, 6}, {0, 6, 3, 5}};
+        for (int net = 0; net < 3; net++) {
+            for (int what = 0; what <= 3; what++) {
+                for (int place : new int[] {0, 1, 2, 20}) {
+                    Check.due("chapterOf " + net + " " + what, x.chapterOf(net, place, what), due[net][what]);
+                }
+            }
+        }
     }
 
     /** Throws for the net or place, then for what, then if there is no knot. */
@@ -404,6 +426,18 @@ public final class BoundaryQuestionsTest {
         y.tear(1, 5, 11);
         least(y, 0, 1);
         least(y, 1, 2);
+        NetScript z = new NetScript();
+        Pasts.tie(z, 2, 3, 0, 1, 2, 6, 8, 12, 14);
+        z.note(2, 14);
+        z.tear(2, 0, 6);
+        least(z, 0, 2);
+        z.tear(2, 2, 8);
+        least(z, 0, 4);
+        z.tear(2, 6, 12);
+        z.tear(2, 8, 14);
+        least(z, 0, 8);
+        z.tear(2, 0, 1);
+        least(z, 0, 9);
     }
 
     /** Throws if there is no such note, then if none would do. */
@@ -438,6 +472,7 @@ public final class BoundaryQuestionsTest {
         best(x, 0, 0, 1);
         x.knot(0, 1, 0);
         best(x, 0, 17, 23);
+        bothChaptersCount();
         NetScript y = new NetScript();
         Pasts.tieAll(y, 1, 2);
         y.tear(1, 17, 23);
@@ -446,6 +481,19 @@ public final class BoundaryQuestionsTest {
         best(y, 1, 22, 23);
         y.knot(1, 22, 0);
         best(y, 1, 17, 23);
+    }
+
+    /** Four and one are more than two and two, whichever end the four are at. */
+    private static void bothChaptersCount() {
+        for (int end = 0; end < 2; end++) {
+            NetScript x = new NetScript();
+            Pasts.tie(x, 0, 1, 0, 1, 2, 3);
+            x.tear(0, 1, 2);
+            best(x, 0, 1, 2);
+            Pasts.tie(x, 0, 1, 18, 19, 20, 21, 22);
+            x.tear(0, end == 0 ? 18 : 21, end == 0 ? 19 : 22);
+            best(x, 0, end == 0 ? 18 : 21, end == 0 ? 19 : 22);
+        }
     }
 
     /** Of several the cheapest, although its places are higher. */

@@ -1,3 +1,5 @@
+import java.util.function.Consumer;
+
 /** Texts at their edges: the tape, the form of orders, fault positions, and what run does. One test a sentence. */
 public final class BoundaryTextsTest {
     private static final String[] SHORTEST = {
@@ -20,6 +22,7 @@ public final class BoundaryTextsTest {
         aTextIsOneOrderOrMore();
         moreOrdersThanFit();
         eachOrderHasItsForm();
+        eachOrderDoesWhatItsMethodDoes();
         aDigitIsFrom0To9();
         aNumberHasOneDigitOrTwo();
         aTextMustNotEndTooEarly();
@@ -39,6 +42,11 @@ public final class BoundaryTextsTest {
 
     private static NetScript withKnots() {
         NetScript x = new NetScript();
+        tieKnots(x);
+        return x;
+    }
+
+    private static void tieKnots(NetScript x) {
         Pasts.tie(x, 0, 1, 0, 10);
         x.editor(50);
         x.tear(0, 0, 1);
@@ -47,7 +55,6 @@ public final class BoundaryTextsTest {
         x.note(1, 5);
         x.knot(1, 23, 2);
         x.note(1, 23);
-        return x;
     }
 
     private static String repeated(String text, int times) {
@@ -194,6 +201,39 @@ public final class BoundaryTextsTest {
         Check.due("sink", y.netOf(2, 3), 2);
         Check.due("notes", y.account(5), 2);
         Check.due("note", y.noteOf(1, 1), 10);
+    }
+
+    /** The orders tie a knot, or untie one; tear; mend; let an editor come; tell the tide, a draught; note; and drop. */
+    private static void eachOrderDoesWhatItsMethodDoes() {
+        Past before = new Past(x -> {
+            tieKnots(x);
+            x.editor(20);
+            x.editor(30);
+            Check.runs(x, "tear 2 16-17;tear 2 16-22;mend 2 22-16/2", 3);
+        });
+        doneAlike(before, "knot 2 03=3", x -> x.knot(2, 3, 3));
+        doneAlike(before, "knot 1 23=0", x -> x.knot(1, 23, 0));
+        doneAlike(before, "tear 1 11-05", x -> x.tear(1, 11, 5));
+        doneAlike(before, "mend 0 0-1/0", x -> x.mend(0, 0, 1, 0));
+        doneAlike(before, "mend 0 11-10/1", x -> x.mend(0, 11, 10, 1));
+        doneAlike(before, "mend 2 17-16/2", x -> x.mend(2, 17, 16, 2));
+        doneAlike(before, "editor 00", x -> x.editor(0));
+        doneAlike(before, "editor 99", x -> x.editor(99));
+        doneAlike(before, "tide 1", x -> x.tide(1));
+        doneAlike(before, "tide 4", x -> x.tide(4));
+        doneAlike(before, "sink 2=1", x -> x.sink(2, 1));
+        doneAlike(before, "sink 0=4", x -> x.sink(0, 4));
+        doneAlike(before, "note 0 10", x -> x.note(0, 10));
+        doneAlike(before, "drop 0", x -> x.drop(0));
+        doneAlike(before, "drop 1", x -> x.drop(1));
+        NetScript x = before.make();
+        x.editor(7);
+        Check.runs(x, "mend 0 1-0/3", 1);
+        Check.due("twine of the last editor", x.editorOf(3, 0), 6);
+    }
+
+    private static void doneAlike(Past before, String order, Consumer<NetScript> call) {
+        before.then(call).alike("behind " + order, before.then(x -> Check.runs(x, order, 1)));
     }
 
     /** A digit: '0' and '9' are, the characters beside them are not. */
