@@ -244,34 +244,29 @@ public final class BoundaryNetsTest {
         NetScript x = new NetScript();
         x.editor(9);
         Pasts.tie(x, 0, 1, 0, 1, 7, 8);
-        chapters(x, 0, 1);
+        Check.chapters(x, 0, 1);
         Check.due("a torn string in the row", x.tear(0, 1, 7), 2);
-        chapters(x, 0, 2);
+        Check.chapters(x, 0, 2);
         x.mend(0, 1, 7, 0);
-        chapters(x, 0, 1);
+        Check.chapters(x, 0, 1);
         Check.due("a torn string aside of it", x.tear(0, 0, 6), 1);
-        chapters(x, 0, 1);
-        chapters(x, 1, 0);
+        Check.chapters(x, 0, 1);
+        Check.chapters(x, 1, 0);
         Pasts.tie(x, 0, 1, 2);
         x.tear(0, 1, 7);
-        chapters(x, 0, 1);
+        Check.chapters(x, 0, 1);
         Check.due("the way round torn too", x.tear(0, 2, 8), 2);
-    }
-
-    private static void chapters(NetScript x, int net, int want) {
-        Check.due("chapters", x.chapters(net), want);
-        Check.due("chaptersAgain", x.chaptersAgain(net), want);
     }
 
     /** A row of knots: a place without one parts it although its strings are whole. */
     private static void aRowOfKnotsHasNoGap() {
         NetScript x = new NetScript();
         Pasts.tie(x, 0, 1, 6, 7, 8);
-        chapters(x, 0, 1);
+        Check.chapters(x, 0, 1);
         x.knot(0, 7, 0);
-        chapters(x, 0, 2);
+        Check.chapters(x, 0, 2);
         x.knot(0, 7, 3);
-        chapters(x, 0, 1);
+        Check.chapters(x, 0, 1);
     }
 
     /** In a line: the last place of one and the first of the next have no string, nor have the first and the last. */
@@ -280,7 +275,7 @@ public final class BoundaryNetsTest {
         for (int[] pair : pairs) {
             NetScript x = new NetScript();
             Pasts.tie(x, 0, 2, pair[0], pair[1]);
-            chapters(x, 0, 2);
+            Check.chapters(x, 0, 2);
             Check.due("chapter", x.chapterOf(0, pair[1], 0), pair[1]);
             Check.due("its strings", x.chapterOf(0, pair[1], 3), 0);
             Check.written("its letters", x, x.chapterLine(0, pair[0]), "b");
@@ -293,7 +288,7 @@ public final class BoundaryNetsTest {
         for (int place = 0; place < 24; place++) {
             NetScript x = new NetScript();
             x.knot(2, place, 3);
-            chapters(x, 2, 1);
+            Check.chapters(x, 2, 1);
             Check.due("its lowest place", x.chapterOf(2, place, 0), place);
             Check.due("its knots", x.chapterOf(2, place, 1), 1);
             Check.due("its strings", x.chapterOf(2, place, 3), 0);
@@ -307,13 +302,13 @@ public final class BoundaryNetsTest {
         Pasts.tieAll(x, 1, 1);
         x.knot(0, 0, 1);
         x.knot(2, 0, 1);
-        chapters(x, 1, 1);
+        Check.chapters(x, 1, 1);
         Check.due("its lowest place", x.chapterOf(1, 23, 0), 0);
         Check.due("its knots", x.chapterOf(1, 0, 1), 24);
         Check.due("its strings", x.chapterOf(1, 12, 3), 38);
         Check.due("the greatest", x.netOf(1, 5), 24);
-        chapters(x, 0, 1);
-        chapters(x, 2, 1);
+        Check.chapters(x, 0, 1);
+        Check.chapters(x, 2, 1);
     }
 
     /** As many chapters as there can be. */
@@ -321,7 +316,7 @@ public final class BoundaryNetsTest {
         NetScript x = new NetScript();
         Pasts.tieAll(x, 2, 1);
         Pasts.tearAll(x, 2);
-        chapters(x, 2, 24);
+        Check.chapters(x, 2, 24);
         Check.due("the greatest", x.netOf(2, 5), 1);
         for (int place = 0; place < 24; place++) {
             Check.due("its knots", x.chapterOf(2, place, 1), 1);
@@ -339,12 +334,12 @@ public final class BoundaryNetsTest {
                 x.tear(0, place, place + 6);
             }
         }
-        chapters(x, 0, 1);
+        Check.chapters(x, 0, 1);
         Check.due("its lowest place from its end", x.chapterOf(0, 18, 0), 0);
         Check.due("its knots from its start", x.chapterOf(0, 0, 1), 24);
         Check.due("its strings", x.chapterOf(0, 0, 3), 23);
         Check.due("a string less", x.tear(0, 18, 19), 2);
-        chapters(x, 0, 2);
+        Check.chapters(x, 0, 2);
         Check.due("the last knot alone", x.chapterOf(0, 18, 1), 1);
     }
 

@@ -252,35 +252,30 @@ public final class BoundaryQuestionsTest {
         rich("net ahead of what", Check.NO_INDEX, x -> x.netOf(-1, -1));
     }
 
-    private static void chapters(NetScript x, int net, int want) {
-        Check.due("chapters", x.chapters(net), want);
-        Check.due("chaptersAgain", x.chaptersAgain(net), want);
-    }
-
     /** From knot to knot, and string by string, by which two chapters become one: round a ring none does so twice. */
     private static void bothWaysCountTheChapters() {
         NetScript x = new NetScript();
-        chapters(x, 0, 0);
+        Check.chapters(x, 0, 0);
         x.tear(0, 0, 1);
-        chapters(x, 0, 0);
+        Check.chapters(x, 0, 0);
         x.knot(0, 0, 1);
-        chapters(x, 0, 1);
+        Check.chapters(x, 0, 1);
         Pasts.tie(x, 0, 2, 2, 8, 14, 13, 12, 6);
-        chapters(x, 0, 1);
+        Check.chapters(x, 0, 1);
         x.knot(0, 1, 3);
-        chapters(x, 0, 1);
+        Check.chapters(x, 0, 1);
         x.tear(0, 6, 12);
-        chapters(x, 0, 2);
+        Check.chapters(x, 0, 2);
         Pasts.tie(x, 0, 1, 23, 16);
-        chapters(x, 0, 4);
+        Check.chapters(x, 0, 4);
         NetScript y = new NetScript();
         for (int place = 0; place < 24; place++) {
             if ((place / 6 + place) % 2 == 0) {
                 y.knot(1, place, 2);
             }
         }
-        chapters(y, 1, 12);
-        chapters(y, 0, 0);
+        Check.chapters(y, 1, 12);
+        Check.chapters(y, 0, 0);
         for (int net : new int[] {-1, 3, MIN, MAX}) {
             rich("chapters", Check.NO_INDEX, z -> z.chapters(net));
             rich("chaptersAgain", Check.NO_INDEX, z -> z.chaptersAgain(net));
@@ -390,33 +385,28 @@ public final class BoundaryQuestionsTest {
         }
     }
 
-    private static void least(NetScript x, int note, int want) {
-        Check.due("least", x.least(note), want);
-        Check.due("leastAgain", x.leastAgain(note), want);
-    }
-
     /** By the cheapest torn strings that join parts; from one part on, by what it takes to come to the next place. */
     private static void bothWaysTellTheLeastTwine() {
         NetScript x = new NetScript();
         Pasts.tie(x, 0, 1, 0, 1, 2, 6, 7, 8, 12, 13, 14);
         x.note(0, 14);
-        least(x, 0, 0);
+        Check.least(x, 0, 0);
         x.tear(0, 0, 6);
         x.tear(0, 1, 7);
         x.tear(0, 2, 8);
-        least(x, 0, 2);
+        Check.least(x, 0, 2);
         x.tear(0, 6, 12);
         x.tear(0, 7, 13);
         x.tear(0, 8, 14);
-        least(x, 0, 4);
+        Check.least(x, 0, 4);
         x.tear(0, 0, 1);
         x.tear(0, 7, 8);
         x.tear(0, 13, 14);
-        least(x, 0, 7);
+        Check.least(x, 0, 7);
         x.tear(0, 1, 2);
         x.tear(0, 6, 7);
         x.tear(0, 12, 13);
-        least(x, 0, 10);
+        Check.least(x, 0, 10);
         NetScript y = new NetScript();
         Pasts.tie(y, 1, 1, 0, 6, 7, 1, 5, 11);
         y.note(1, 0);
@@ -424,20 +414,20 @@ public final class BoundaryQuestionsTest {
         y.tear(1, 0, 6);
         y.tear(1, 0, 1);
         y.tear(1, 5, 11);
-        least(y, 0, 1);
-        least(y, 1, 2);
+        Check.least(y, 0, 1);
+        Check.least(y, 1, 2);
         NetScript z = new NetScript();
         Pasts.tie(z, 2, 3, 0, 1, 2, 6, 8, 12, 14);
         z.note(2, 14);
         z.tear(2, 0, 6);
-        least(z, 0, 2);
+        Check.least(z, 0, 2);
         z.tear(2, 2, 8);
-        least(z, 0, 4);
+        Check.least(z, 0, 4);
         z.tear(2, 6, 12);
         z.tear(2, 8, 14);
-        least(z, 0, 8);
+        Check.least(z, 0, 8);
         z.tear(2, 0, 1);
-        least(z, 0, 9);
+        Check.least(z, 0, 9);
     }
 
     /** Throws if there is no such note, then if none would do. */
@@ -451,12 +441,7 @@ public final class BoundaryQuestionsTest {
         Past another = Pasts.RICH.then(x -> x.knot(2, 16, 3));
         another.thrown("least", Check.NO_ELEMENT, x -> x.least(2));
         another.thrown("leastAgain", Check.NO_ELEMENT, x -> x.leastAgain(2));
-        least(another.make(), 1, 2);
-    }
-
-    private static void best(NetScript x, int net, int lesser, int greater) {
-        Check.due("lesser place of the best", x.bestMend(net, false), lesser);
-        Check.due("greater place of the best", x.bestMend(net, true), greater);
+        Check.least(another.make(), 1, 2);
     }
 
     /** That one by which the most knots hang together: one knot more is better than a cheaper string. */
@@ -465,22 +450,22 @@ public final class BoundaryQuestionsTest {
         Pasts.tie(x, 0, 1, 0, 1, 17, 23);
         x.tear(0, 0, 1);
         x.tear(0, 17, 23);
-        best(x, 0, 0, 1);
+        Check.best(x, 0, 0, 1);
         x.knot(0, 22, 1);
-        best(x, 0, 17, 23);
+        Check.best(x, 0, 17, 23);
         x.knot(0, 7, 1);
-        best(x, 0, 0, 1);
+        Check.best(x, 0, 0, 1);
         x.knot(0, 1, 0);
-        best(x, 0, 17, 23);
+        Check.best(x, 0, 17, 23);
         bothChaptersCount();
         NetScript y = new NetScript();
         Pasts.tieAll(y, 1, 2);
         y.tear(1, 17, 23);
         Check.thrown("bestMend", Check.NO_ELEMENT, () -> y.bestMend(1, true));
         y.tear(1, 22, 23);
-        best(y, 1, 22, 23);
+        Check.best(y, 1, 22, 23);
         y.knot(1, 22, 0);
-        best(y, 1, 17, 23);
+        Check.best(y, 1, 17, 23);
     }
 
     /** Four and one are more than two and two, whichever end the four are at. */
@@ -489,10 +474,10 @@ public final class BoundaryQuestionsTest {
             NetScript x = new NetScript();
             Pasts.tie(x, 0, 1, 0, 1, 2, 3);
             x.tear(0, 1, 2);
-            best(x, 0, 1, 2);
+            Check.best(x, 0, 1, 2);
             Pasts.tie(x, 0, 1, 18, 19, 20, 21, 22);
             x.tear(0, end == 0 ? 18 : 21, end == 0 ? 19 : 22);
-            best(x, 0, end == 0 ? 18 : 21, end == 0 ? 19 : 22);
+            Check.best(x, 0, end == 0 ? 18 : 21, end == 0 ? 19 : 22);
         }
     }
 
@@ -501,17 +486,17 @@ public final class BoundaryQuestionsTest {
         NetScript x = new NetScript();
         Pasts.tie(x, 0, 1, 0, 6, 22, 23);
         x.tear(0, 0, 6);
-        best(x, 0, 0, 6);
+        Check.best(x, 0, 0, 6);
         x.tear(0, 22, 23);
-        best(x, 0, 22, 23);
+        Check.best(x, 0, 22, 23);
         x.editor(1);
         x.mend(0, 22, 23, 0);
-        best(x, 0, 0, 6);
+        Check.best(x, 0, 0, 6);
         NetScript y = new NetScript();
         Pasts.tie(y, 0, 1, 0, 1, 6);
         y.tear(0, 0, 6);
         y.tear(0, 0, 1);
-        best(y, 0, 0, 1);
+        Check.best(y, 0, 0, 1);
     }
 
     /** Then the one with the lowest lesser place, in a line and between two lines. */
@@ -522,19 +507,19 @@ public final class BoundaryQuestionsTest {
         x.tear(2, 18, 19);
         x.tear(2, 8, 9);
         x.tear(2, 3, 4);
-        best(x, 2, 3, 4);
+        Check.best(x, 2, 3, 4);
         x.knot(2, 4, 0);
-        best(x, 2, 8, 9);
+        Check.best(x, 2, 8, 9);
         x.knot(2, 8, 0);
-        best(x, 2, 18, 19);
+        Check.best(x, 2, 18, 19);
         NetScript y = new NetScript();
         Pasts.tie(y, 2, 1, 0, 6, 17, 23, 2, 8);
         y.tear(2, 17, 23);
-        best(y, 2, 17, 23);
+        Check.best(y, 2, 17, 23);
         y.tear(2, 8, 2);
-        best(y, 2, 2, 8);
+        Check.best(y, 2, 2, 8);
         y.tear(2, 0, 6);
-        best(y, 2, 0, 6);
+        Check.best(y, 2, 0, 6);
     }
 
     /** Then with the lowest greater place: two strings from one place are of two prices, so the cheaper one is lower. */
@@ -542,9 +527,9 @@ public final class BoundaryQuestionsTest {
         NetScript x = new NetScript();
         Pasts.tie(x, 0, 1, 16, 17, 22);
         x.tear(0, 16, 22);
-        best(x, 0, 16, 22);
+        Check.best(x, 0, 16, 22);
         x.tear(0, 16, 17);
-        best(x, 0, 16, 17);
+        Check.best(x, 0, 16, 17);
     }
 
     /** Throws if there is no such net, then if there is none that joins two chapters. */

@@ -376,11 +376,6 @@ public final class BoundaryWaterAndNotesTest {
         Check.due("read as noted", x.account(6), 0);
     }
 
-    private static void least(NetScript x, int note, int want) {
-        Check.due("least", x.least(note), want);
-        Check.due("leastAgain", x.leastAgain(note), want);
-    }
-
     private static void noneWouldDo(NetScript x, int note) {
         Check.thrown("least", Check.NO_ELEMENT, () -> x.least(note));
         Check.thrown("leastAgain", Check.NO_ELEMENT, () -> x.leastAgain(note));
@@ -391,15 +386,15 @@ public final class BoundaryWaterAndNotesTest {
         NetScript x = new NetScript();
         x.knot(0, 23, 1);
         x.note(0, 23);
-        least(x, 0, 0);
+        Check.least(x, 0, 0);
         Pasts.tieAll(x, 1, 1);
         x.note(1, 23);
-        least(x, 1, 0);
+        Check.least(x, 1, 0);
         x.tear(1, 0, 1);
-        least(x, 1, 0);
+        Check.least(x, 1, 0);
         x.tear(0, 22, 23);
         x.tear(0, 17, 23);
-        least(x, 0, 0);
+        Check.least(x, 0, 0);
     }
 
     /** If strings were mended alone: the cheaper way, over a string in a line, or over one between two. */
@@ -407,20 +402,20 @@ public final class BoundaryWaterAndNotesTest {
         NetScript x = noted().make();
         x.tear(1, 8, 14);
         x.tear(1, 9, 15);
-        least(x, 0, 2);
+        Check.least(x, 0, 2);
         x.tear(1, 8, 9);
-        least(x, 0, 3);
+        Check.least(x, 0, 3);
         x.tear(1, 14, 15);
-        least(x, 0, 4);
+        Check.least(x, 0, 4);
         NetScript y = noted().make();
         y.tear(1, 8, 9);
         y.tear(1, 14, 15);
-        least(y, 0, 1);
+        Check.least(y, 0, 1);
         y.tear(1, 8, 14);
-        least(y, 0, 2);
+        Check.least(y, 0, 2);
         y.tear(1, 2, 8);
         y.tear(1, 7, 8);
-        least(y, 0, 2);
+        Check.least(y, 0, 2);
     }
 
     /** It would not by any if the kind of one of its places is another one now, none too. */
@@ -433,7 +428,7 @@ public final class BoundaryWaterAndNotesTest {
                     x.knot(1, place, kind);
                     noneWouldDo(x, 0);
                     x.knot(1, place, was);
-                    least(x, 0, 0);
+                    Check.least(x, 0, 0);
                 }
             }
         }
@@ -444,25 +439,25 @@ public final class BoundaryWaterAndNotesTest {
         int[][] strings = {{8, 2}, {9, 3}, {8, 7}, {9, 10}, {14, 13}, {15, 16}, {14, 20}, {15, 21}};
         for (int[] string : strings) {
             NetScript x = noted().make();
-            least(x, 0, 0);
+            Check.least(x, 0, 0);
             x.knot(1, string[1], 3);
             noneWouldDo(x, 0);
             x.tear(1, string[0], string[1]);
-            least(x, 0, 0);
+            Check.least(x, 0, 0);
             x.tear(1, 8, 14);
             x.tear(1, 9, 15);
-            least(x, 0, 2);
+            Check.least(x, 0, 2);
             x.editor(2);
             x.mend(1, string[1], string[0], 0);
             noneWouldDo(x, 0);
             x.knot(1, string[1], 0);
-            least(x, 0, 2);
+            Check.least(x, 0, 2);
         }
         NetScript y = new NetScript();
         y.knot(0, 11, 1);
         y.note(0, 11);
         Pasts.tie(y, 0, 1, 12, 6, 4, 16, 23, 0);
-        least(y, 0, 0);
+        Check.least(y, 0, 0);
     }
 
     /** For the least twine, the editors and their twine are not asked. */
@@ -470,13 +465,13 @@ public final class BoundaryWaterAndNotesTest {
         NetScript x = noted().make();
         x.tear(1, 8, 14);
         x.tear(1, 9, 15);
-        least(x, 0, 2);
+        Check.least(x, 0, 2);
         x.editor(0);
-        least(x, 0, 2);
+        Check.least(x, 0, 2);
         x.editor(1);
-        least(x, 0, 2);
+        Check.least(x, 0, 2);
         x.editor(99);
-        least(x, 0, 2);
+        Check.least(x, 0, 2);
         Check.due("twine used", x.account(10), 0);
         Check.due("twine", x.account(4), 100);
     }
@@ -487,16 +482,16 @@ public final class BoundaryWaterAndNotesTest {
         Pasts.tieAll(x, 2, 3);
         x.note(2, 0);
         Pasts.tearAll(x, 2);
-        least(x, 0, 4 * 5 + 3 * 2);
+        Check.least(x, 0, 4 * 5 + 3 * 2);
         NetScript y = new NetScript();
         Pasts.tie(y, 2, 3, 0, 6, 12, 18);
         y.note(2, 0);
         Pasts.tearAll(y, 2);
-        least(y, 0, 6);
+        Check.least(y, 0, 6);
         NetScript z = new NetScript();
         Pasts.tie(z, 2, 3, 18, 19, 20, 21, 22, 23);
         z.note(2, 23);
         Pasts.tearAll(z, 2);
-        least(z, 0, 5);
+        Check.least(z, 0, 5);
     }
 }

@@ -56,6 +56,24 @@ final class Check {
         thrown("detail behind that of " + what, NO_ELEMENT, () -> x.reason(true, true));
     }
 
+    /** Both ways of counting the chapters of a net. */
+    static void chapters(NetScript x, int net, int want) {
+        due("chapters", x.chapters(net), want);
+        due("chaptersAgain", x.chaptersAgain(net), want);
+    }
+
+    /** Both ways of telling the least twine for a note. */
+    static void least(NetScript x, int note, int want) {
+        due("least", x.least(note), want);
+        due("leastAgain", x.leastAgain(note), want);
+    }
+
+    /** Both ends of the best torn string of a net. */
+    static void best(NetScript x, int net, int lesser, int greater) {
+        due("lesser place of the best", x.bestMend(net, false), lesser);
+        due("greater place of the best", x.bestMend(net, true), greater);
+    }
+
     static void feed(NetScript x, String text) {
         for (int i = 0; i < text.length(); i++) {
             due("feed of " + text + " at " + i, x.feed(text.charAt(i)), i + 1);

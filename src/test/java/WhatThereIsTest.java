@@ -95,32 +95,27 @@ public final class WhatThereIsTest {
         Check.thrown("netOf", Check.NO_ARGUMENT, () -> x.netOf(0, -1));
     }
 
-    private static void chapters(NetScript x, int net, int want) {
-        Check.due("chapters", x.chapters(net), want);
-        Check.due("chaptersAgain", x.chaptersAgain(net), want);
-    }
-
     private static void chaptersInTwoWays() {
         NetScript x = new NetScript();
         tie(x, 0, 5, 6);
-        chapters(x, 0, 2);
+        Check.chapters(x, 0, 2);
         tie(x, 0, 0);
-        chapters(x, 0, 2);
+        Check.chapters(x, 0, 2);
         tie(x, 0, 1, 2, 3, 4);
-        chapters(x, 0, 1);
+        Check.chapters(x, 0, 1);
         x.tear(0, 0, 6);
-        chapters(x, 0, 2);
+        Check.chapters(x, 0, 2);
         tie(x, 0, 7);
-        chapters(x, 0, 1);
+        Check.chapters(x, 0, 1);
         x.tear(0, 2, 3);
-        chapters(x, 0, 2);
+        Check.chapters(x, 0, 2);
         x.knot(0, 3, 0);
-        chapters(x, 0, 2);
+        Check.chapters(x, 0, 2);
         tie(x, 0, 23, 17);
-        chapters(x, 0, 3);
+        Check.chapters(x, 0, 3);
         tie(x, 0, 11);
-        chapters(x, 0, 2);
-        chapters(x, 1, 0);
+        Check.chapters(x, 0, 2);
+        Check.chapters(x, 1, 0);
         Check.thrown("chapters", Check.NO_INDEX, () -> x.chapters(3));
         Check.thrown("chapters", Check.NO_INDEX, () -> x.chapters(-1));
         Check.thrown("chaptersAgain", Check.NO_INDEX, () -> x.chaptersAgain(3));
@@ -133,19 +128,19 @@ public final class WhatThereIsTest {
         for (int place = 0; place < 24; place++) {
             x.knot(2, place, 1 + place % 3);
         }
-        chapters(x, 2, 1);
+        Check.chapters(x, 2, 1);
         for (int place = 0; place < 18; place++) {
             if (place != 5 && place != 6 && place != 17) {
                 Check.due("tear", x.tear(2, place, place + 6), 1);
             }
         }
-        chapters(x, 2, 1);
+        Check.chapters(x, 2, 1);
         Check.due("knots", x.chapterOf(2, 23, 1), 24);
         Check.due("lowest place", x.chapterOf(2, 18, 0), 0);
         Check.due("whole strings", x.chapterOf(2, 18, 3), 23);
         Check.due("length", x.chapterLine(2, 12), 24);
         x.tear(2, 6, 12);
-        chapters(x, 2, 2);
+        Check.chapters(x, 2, 2);
         Check.due("lowest place", x.chapterOf(2, 18, 0), 12);
         NetScript y = new NetScript();
         for (int place = 0; place < 24; place++) {
@@ -157,7 +152,7 @@ public final class WhatThereIsTest {
                 y.tear(0, place, place + 6);
             }
         }
-        chapters(y, 0, 24);
+        Check.chapters(y, 0, 24);
         Check.due("ranked", y.ranked(0, 23), 23);
         Check.thrown("ranked", Check.NO_ELEMENT, () -> y.ranked(0, 24));
         Check.due("twine for all", y.netOf(0, 6), 56);
@@ -237,28 +232,23 @@ public final class WhatThereIsTest {
         Check.due("without the lowest", x.noteOf(0, 3), 0);
     }
 
-    private static void least(NetScript x, int note, int want) {
-        Check.due("least", x.least(note), want);
-        Check.due("leastAgain", x.leastAgain(note), want);
-    }
-
     private static void leastTwine() {
         NetScript x = new NetScript();
         tie(x, 0, 0, 1, 6, 7);
         x.note(0, 0);
-        least(x, 0, 0);
+        Check.least(x, 0, 0);
         x.tear(0, 0, 6);
-        least(x, 0, 0);
+        Check.least(x, 0, 0);
         x.tear(0, 1, 7);
-        least(x, 0, 2);
+        Check.least(x, 0, 2);
         x.tear(0, 0, 1);
-        least(x, 0, 3);
+        Check.least(x, 0, 3);
         x.tear(0, 6, 7);
-        least(x, 0, 4);
+        Check.least(x, 0, 4);
         tie(x, 0, 12);
         Check.thrown("least", Check.NO_ELEMENT, () -> x.least(0));
         x.tear(0, 6, 12);
-        least(x, 0, 4);
+        Check.least(x, 0, 4);
         Check.due("not as noted", x.noteOf(0, 3), 0);
         Check.thrown("least", Check.NO_INDEX, () -> x.least(1));
         Check.thrown("least", Check.NO_INDEX, () -> x.least(-1));
@@ -273,15 +263,15 @@ public final class WhatThereIsTest {
         x.note(1, 14);
         x.tear(1, 0, 1);
         x.tear(1, 2, 8);
-        least(x, 0, 1);
+        Check.least(x, 0, 1);
         x.tear(1, 13, 14);
         x.tear(1, 0, 6);
-        least(x, 0, 4);
+        Check.least(x, 0, 4);
         x.tear(1, 1, 2);
         x.tear(1, 6, 12);
         x.tear(1, 8, 14);
         x.tear(1, 12, 13);
-        least(x, 0, 10);
+        Check.least(x, 0, 10);
         NetScript y = new NetScript();
         for (int place = 0; place < 24; place++) {
             y.knot(0, place, 2);
@@ -295,7 +285,7 @@ public final class WhatThereIsTest {
                 y.tear(0, place, place + 6);
             }
         }
-        least(y, 0, 26);
+        Check.least(y, 0, 26);
     }
 
     private static void noTwine(NetScript x, int note) {
@@ -312,7 +302,7 @@ public final class WhatThereIsTest {
         x.knot(2, 11, 0);
         noTwine(x, 0);
         x.knot(2, 11, 1);
-        least(x, 0, 0);
+        Check.least(x, 0, 0);
         for (int place : new int[] {3, 9, 16, 17}) {
             x.knot(2, place, 1);
             noTwine(x, 0);
@@ -320,18 +310,13 @@ public final class WhatThereIsTest {
         }
         x.tear(2, 10, 16);
         x.knot(2, 16, 1);
-        least(x, 0, 0);
+        Check.least(x, 0, 0);
         x.knot(2, 12, 1);
-        least(x, 0, 0);
+        Check.least(x, 0, 0);
         x.knot(2, 17, 1);
         noTwine(x, 0);
         x.tear(2, 11, 17);
-        least(x, 0, 0);
-    }
-
-    private static void best(NetScript x, int net, int lesser, int greater) {
-        Check.due("lesser place of the best", x.bestMend(net, false), lesser);
-        Check.due("greater place of the best", x.bestMend(net, true), greater);
+        Check.least(x, 0, 0);
     }
 
     private static void noBest(NetScript x, int net) {
@@ -349,14 +334,14 @@ public final class WhatThereIsTest {
         x.tear(0, 1, 2);
         noBest(x, 0);
         x.tear(0, 6, 7);
-        best(x, 0, 0, 1);
+        Check.best(x, 0, 0, 1);
         tie(x, 0, 12);
         x.tear(0, 6, 12);
-        best(x, 0, 0, 1);
+        Check.best(x, 0, 0, 1);
         x.tear(0, 0, 6);
-        best(x, 0, 0, 1);
+        Check.best(x, 0, 0, 1);
         Check.due("under water too", x.tide(4), 0);
-        best(x, 0, 0, 1);
+        Check.best(x, 0, 0, 1);
         noBest(x, 1);
         Check.thrown("bestMend", Check.NO_INDEX, () -> x.bestMend(3, true));
         Check.thrown("bestMend", Check.NO_INDEX, () -> x.bestMend(-1, false));
@@ -367,29 +352,29 @@ public final class WhatThereIsTest {
         tie(x, 1, 0, 6, 1, 23, 22, 16);
         x.tear(1, 0, 1);
         x.tear(1, 0, 6);
-        best(x, 1, 0, 1);
+        Check.best(x, 1, 0, 1);
         x.tear(1, 16, 22);
-        best(x, 1, 16, 22);
+        Check.best(x, 1, 16, 22);
         x.tear(1, 22, 23);
-        best(x, 1, 0, 1);
+        Check.best(x, 1, 0, 1);
         x.knot(1, 1, 0);
-        best(x, 1, 22, 23);
+        Check.best(x, 1, 22, 23);
         x.knot(1, 23, 0);
-        best(x, 1, 0, 6);
+        Check.best(x, 1, 0, 6);
         x.knot(1, 12, 1);
-        best(x, 1, 0, 6);
+        Check.best(x, 1, 0, 6);
         x.knot(1, 0, 0);
-        best(x, 1, 16, 22);
+        Check.best(x, 1, 16, 22);
         NetScript y = new NetScript();
         tie(y, 0, 3, 4, 9, 10);
         y.tear(0, 4, 3);
         y.tear(0, 3, 9);
         y.tear(0, 9, 10);
-        best(y, 0, 3, 4);
+        Check.best(y, 0, 3, 4);
         y.knot(0, 4, 0);
-        best(y, 0, 9, 10);
+        Check.best(y, 0, 9, 10);
         y.knot(0, 10, 0);
-        best(y, 0, 3, 9);
+        Check.best(y, 0, 3, 9);
     }
 
     private static void ranks(NetScript x, int net, int... lowest) {
